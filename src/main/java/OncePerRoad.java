@@ -78,7 +78,7 @@ public final class OncePerRoad {
         mind.become(now);
         int statements = 0;
         for (int i = 0; i < text.size; i += digitsBehind(text.cell(i)) + 2) {
-            if (!applied(text, i)) {
+            if (!applyStatement(text, i)) {
                 return -2000 - i;
             }
             statements++;
@@ -640,7 +640,7 @@ public final class OncePerRoad {
     }
 
     /** Does in mind what the STATEMENT with its letter at i says; false if it isn't as told. */
-    private boolean applied(Row text, int i) {
+    private boolean applyStatement(Row text, int i) {
         int first = text.cell(i + 1) - '0';
         int second = text.cell(i + 2) - '0';
         int third = text.cell(i + 3) - '0';
