@@ -163,9 +163,12 @@ public final class PromisesTest {
         due("road(0, 1)", x.road(0, 1), 0);
         due("road(0, 2)", x.road(0, 2), 9);
         due("road(0, 3)", x.road(0, 3), 12);
+        read("r141;");
+        due("road(1, 0)", x.road(1, 0), 1);
+        due("road(1, 1)", x.road(1, 1), 4);
         due("road(0, 4)", x.road(0, 4), -1);
         due("road(0, -1)", x.road(0, -1), -1);
-        due("road(1, 0)", x.road(1, 0), -1);
+        due("road(2, 0)", x.road(2, 0), -1);
         due("road(-1, 0)", x.road(-1, 0), -1);
         due("road(MAX, 0)", x.road(MAX, 0), -1);
         due("road(MIN, 0)", x.road(MIN, 0), -1);
@@ -353,12 +356,27 @@ public final class PromisesTest {
         due("by ferry again", x.go(1, 3, 0, 1), 1);
         due("no ferry there", x.go(2, 3, 0, 2), -3);
         dueNicks(9, 11);
+        start(9, "p3;r011;r121;c50;c51;c53;");
+        due("by ferry, then along a road", x.go(0, 1, 0, 2), 2);
+        dueNicks(0, 2);
+        due("along a road, then by ferry", x.go(1, 1, 0, 2), 2);
+        dueNicks(2, 2);
+        due("by a ferry that isn't there", x.go(2, 0, 0, 2), 2);
+        dueNicks(3, 3);
+        start(9, "p6;r011;r122;r233;r344;r455;" + "c00;c74;c65;");
+        due("too far for one who is told", x.go(1, 0, 0, 5), -3);
+        due("five roads", x.go(0, 0, 0, 5), 15);
+        due("five roads back, by the mill where he sets out", x.go(2, 0, 5, 0), 15);
+        dueNicks(7, 7, 7, 7, 7);
+        start(9, "p3;r011;r121;c00;c00;c00;");
+        x.nick(0, 0, 1);
+        x.nick(1, 3, 1);
         int[][] refused = {
             {3, 0, 0, 1}, {-1, 0, 0, 1}, {0, 4, 0, 1}, {0, -1, 0, 1}, {0, 0, 3, 1}, {0, 0, -1, 1}, {0, 0, 0, 3},
             {0, 0, 0, -1}, {0, 0, 2, 2},
         };
         for (int[] r : refused) due("go not as told", x.go(r[0], r[1], r[2], r[3]), -1);
-        dueNicks(9, 11);
+        dueNicks(1, 8);
     }
 
     private static void far() {
@@ -524,6 +542,10 @@ public final class PromisesTest {
         due("round(1, 2)", x.round(1, 2), 6);
         x.nick(0, 0, 1);
         due("round(0, 0)", x.round(0, 0), -4);
+        start(16, "p3;r011;r011;r025;r021;");
+        due("the first round found is the least", x.round(0, 0), 2);
+        start(16, "p3;r025;r021;r011;r011;");
+        due("a later one is the least", x.round(0, 0), 2);
         start(16, "p3;r012;r127;");
         due("not the same road twice", x.round(0, 0), -4);
         read("r013;");
@@ -615,6 +637,12 @@ public final class PromisesTest {
         x.row(1, 0, 0);
         due("no carriages", x.orders(1, 0), 1);
         due("no carriages", x.orders(1, 1), 0);
+        start(19, "r011;r011;c00;");
+        tell(1, 0, 0, 0, 0, 1);
+        due("one", x.orders(1, 0), 1);
+        x.nick(0, 0, 1);
+        x.nick(1, 0, 1);
+        due("as things stand now", x.orders(1, 0), 0);
         start(19, "p3;r011;r019;r121;c10;c00;");
         tell(1, 0, 0, 0, 0, 1, 1, 0, 0, 2);
         due("the orders differ in miles", x.orders(1, 0), 2);
@@ -760,6 +788,7 @@ public final class PromisesTest {
         due("row(7, 2, 100)", x.row(7, 2, 100), 0);
         due("element(7, 99)", x.element(7, 99), 0);
         x.put(7, 99, 5);
+        x.put(7, 0, 6);
         int[][] refused = {{8, 0, 1}, {-1, 0, 1}, {7, 3, 1}, {7, -1, 1}, {7, 0, 101}, {7, 0, MAX}, {8, 0, -1}, {7, 3, -1}};
         for (int[] r : refused) due("row not as told", x.row(r[0], r[1], r[2]), -1);
         due("row(7, 0, -1)", x.row(7, 0, -1), -14);
@@ -767,6 +796,7 @@ public final class PromisesTest {
         due("the row is as it was", x.element(7, 99), 5);
         x.row(7, 2, 100);
         due("0 at first", x.element(7, 99), 0);
+        due("0 at first", x.element(7, 0), 0);
         x.keep(7, 1, 0, 0);
         x.row(7, 0, 1);
         due("a row in a carrier's place", x.wage(7), -12);
@@ -829,6 +859,11 @@ public final class PromisesTest {
         due("another sort", x.copy(0, 0, 2, 0, 9), -12);
         due("from a carrier", x.copy(3, 0, 0, 0, 1), -12);
         due("to a carrier", x.copy(0, 0, 3, 0, 1), -12);
+        x.row(4, 2, 5);
+        x.keep(4, 1, 0, 0);
+        due("from a carrier in such a row's place", x.copy(4, 0, 0, 0, 1), -12);
+        due("to a carrier in such a row's place", x.copy(0, 0, 4, 0, 1), -12);
+        x.keep(4, 0, 0, 0);
         due("from nothing", x.copy(4, 0, 3, 0, 1), -11);
         due("to nothing", x.copy(3, 0, 4, 0, -1), -11);
         int[][] noShelf = {{8, 0}, {-1, 0}, {0, 8}, {0, -1}, {8, 4}, {4, 8}};
