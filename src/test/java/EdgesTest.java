@@ -299,6 +299,16 @@ public final class EdgesTest {
                 DUE.is("row of -1", y.row(sort, sort, -1), -14);
             }
         }
+        for (int d = 0; d < 8; d++) {
+            DUE.is("a carrier", x.keep(d, 1, 1, 0), 0);
+            DUE.is("his wage", x.wage(d), 4);
+            DUE.is("a row in his place", x.row(d, 1, 1), 0);
+            DUE.is("no carrier any more", x.wage(d), -12);
+            DUE.is("nothing in its place", x.keep(d, 0, MIN, MAX), 0);
+            DUE.is("no row any more", x.put(d, 0, 0), -11);
+            DUE.is("nothing in place of nothing", x.keep(d, 0, 0, 0), 0);
+            DUE.is("nothing", x.judge(d), -11);
+        }
         OncePerRoad shrunk = new OncePerRoad();
         Lands.tell(shrunk, 0, 2, 5, 6, 7);
         shrunk.row(0, 2, 1);
@@ -480,6 +490,15 @@ public final class EdgesTest {
         DUE.is("no other place twice", tail.round(0, 0), -4);
         DUE.is("round behind the tail", tail.round(0, 1), 3);
         DUE.is("a place without roads", tail.round(0, 4), -4);
+        OncePerRoad nine = Lands.of("p6;r011;r122;r233;r344;r455;r506;r027;r138;r249;");
+        DUE.is("far, with nine roads", nine.far(0, 0, 5), 6);
+        DUE.is("round, with nine roads", nine.round(0, 0), 10);
+        DUE.is("round by the ninth", nine.round(0, 4), 16);
+        DUE.is("worth, with nine roads", nine.worth(5, 0, 0, 5), 9);
+        DUE.is("worth of the ninth", nine.worth(8, 0, 2, 4), 0);
+        nine.nick(2, 0, 1);
+        DUE.is("far by the ninth", nine.far(0, 2, 4), 9);
+        DUE.is("worth of the ninth", nine.worth(8, 0, 2, 4), 5);
     }
 
     private static void manyAndBars() {
@@ -591,7 +610,7 @@ public final class EdgesTest {
         OncePerRoad useless = Lands.of("p5;r011;r011;r121;r341;r341;r341;");
         DUE.is("a road that makes it more, of several the least", useless.newly(0, 0, 2, 0), 2);
         DUE.is("two islands", useless.newly(0, 0, 4, 0), 3);
-        DUE.is("the least pair of all, if none makes it more", Lands.of("p6;r011;r121;r341;r451;").newly(0, 0, 5, 0), 3);
+        DUE.is("the first pair between two islands", Lands.of("p6;r011;r121;r341;r451;").newly(0, 2, 5, 0), 3);
         OncePerRoad full = Lands.of("r011;".repeat(9));
         DUE.is("a road more, where there is no room for one", full.newly(0, 1, 0, 1), 10);
     }
@@ -642,6 +661,13 @@ public final class EdgesTest {
         DUE.is("miles as told", unlike.run(0, 1), 11);
         DUE.is("two orders", unlike.orders(0, 0), 2);
         DUE.is("miles of the first order, of the other one no fewer", unlike.orders(0, 1), 11);
+        OncePerRoad goods = Lands.of("r011;c00;");
+        Lands.tell(goods, 0, 0, 0, 0, 0, 1, 0, 3, 0, 1);
+        DUE.is("another good", goods.run(0, 0), 2);
+        DUE.is("another good", goods.orders(0, 0), 2);
+        goods.nick(0, 3, 1);
+        DUE.is("as things stand by now", goods.orders(0, 0), 0);
+        DUE.is("as things stand by now", goods.run(0, 0), 1);
         OncePerRoad left = Lands.of("p3;r011;r121;c10;c00;");
         Lands.tell(left, 0, 0, 0, 0, 0, 2, 1, 0, 0, 1);
         DUE.is("the second one is barred by the first", left.run(0, 0), 1);
@@ -663,6 +689,14 @@ public final class EdgesTest {
             DUE.is("seeded(31, " + z + ")", x.seeded(31, z), -1);
         }
         DUE.is("in mind", x.count(3), 0);
+        OncePerRoad once = Lands.of("r011;c00;");
+        int[] gone = {1, 1, 2, 2, 3, 3};
+        for (int i = 0; i < 12; i++) DUE.is("each time anew, " + (i % 6 + 1), once.seeded(i % 6 + 1, 0), gone[i % 6]);
+        once.nick(0, 0, 1);
+        DUE.is("as things stand by now", once.seeded(1, 0), 0);
+        DUE.is("as things stand by now", once.seeded(6, 0), 2);
+        once.nick(0, 0, 0);
+        DUE.is("as things stand by now", once.seeded(6, 0), 3);
         DUE.is("no carriers", new OncePerRoad().seeded(30, 0), -3);
         DUE.is("no roads", Lands.of("c00;").seeded(30, 0), 0);
     }
